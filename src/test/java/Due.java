@@ -6,6 +6,8 @@ final class Due {
 
     private static int wrong = 0;
     private static int told = 0;
+    private static int sentences = 0;
+    private static String heading = "";
 
     interface Call {
         long answer();
@@ -33,13 +35,27 @@ final class Due {
         if (!want.equals(got)) {
             wrong++;
             if (wrong <= 40) {
-                System.out.println(what + " answered " + got + ", due is " + want);
+                System.out.println(heading + what + " answered " + got + ", due is " + want);
             }
         }
     }
 
+    /** The test of one sentence of the document: it asks at least once, and throws nothing. */
+    static void sentence(String words, Runnable asks) {
+        int before = told;
+        heading = "'" + words + "': ";
+        String ended = said(() -> {
+            asks.run();
+            return told - before;
+        });
+        same("the test of the sentence asks", "true", "" + (!ended.equals("0") && !ended.startsWith("throws")));
+        heading = "";
+        sentences++;
+    }
+
     static void close(String name) {
-        System.out.println(name + ": " + told + " answers, " + wrong + " not as due");
+        String tests = sentences > 0 ? sentences + " sentences, " : "";
+        System.out.println(name + ": " + tests + told + " answers, " + wrong + " not as due");
         if (wrong > 0 || told == 0) {
             System.exit(1);
         }
