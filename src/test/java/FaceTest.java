@@ -62,7 +62,8 @@ public final class FaceTest {
             if (one == FormForge.class && Modifier.isPublic(method.getModifiers())) continue;
             Due.same(one.getSimpleName() + "." + method.getName() + " has a name of its own", "true",
                 "" + !publicNames.contains(method.getName()));
-            Due.same(method.getName() + " has at most seven parameters", "true", "" + (method.getParameterCount() <= 7));
+            Due.same(method.getName() + " has at most seven parameters", "true",
+                "" + (method.getParameterCount() <= 7));
         }
         int fields = 0;
         for (Field field : one.getDeclaredFields()) {

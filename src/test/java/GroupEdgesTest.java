@@ -1,4 +1,4 @@
-/** The sentences on matrices and the group that name a boundary, in the terms and the promises 7 to 12: a test of each. */
+/** The sentences on the group that name a boundary, in the terms and the promises 7 to 12: a test of each. */
 public final class GroupEdgesTest {
     private static FormForge withGenerators(int prime, int[]... generators) {
         FormForge x = Made.of(prime);
@@ -131,7 +131,8 @@ public final class GroupEdgesTest {
                 int f = form;
                 Due.is("form " + f + " by " + told, due[told][f], () -> x.formIs(f, 4));
             }
-            if (told < 4) x.generator(generators[told][0], generators[told][1], generators[told][2], generators[told][3]);
+            int[] m = told < 4 ? generators[told] : null;
+            if (m != null) x.generator(m[0], m[1], m[2], m[3]);
         }
     }
 
@@ -242,7 +243,8 @@ public final class GroupEdgesTest {
             matrix(2, 1, 1, 3), matrix(1, 2, 3, 1), matrix(0, 1, 0, 1), matrix(0, 0, 3, 4)};
         FormForge x = new FormForge();
         for (int[] m : wrong) {
-            Due.is(m[0] + ", " + m[1] + ", " + m[2] + ", " + m[3], Due.RANGE, () -> x.generator(m[0], m[1], m[2], m[3]));
+            String name = m[0] + ", " + m[1] + ", " + m[2] + ", " + m[3];
+            Due.is(name, Due.RANGE, () -> x.generator(m[0], m[1], m[2], m[3]));
         }
         Due.is("nothing came of it", 1, () -> x.order());
         Due.is("the next one is the first", 0, () -> x.generator(2, 1, 1, 2));
@@ -311,6 +313,22 @@ public final class GroupEdgesTest {
         }
     }
 
+    /** Less 1 in each place, by less x in place of x: 1 and less 1 in turn; the zero form stays. */
+    private static void smallestAndLargestCodes() {
+        for (int p : Made.PRIMES) {
+            FormForge x = withGenerators(p, matrix(p - 1, 0, 0, 1));
+            for (int degree = 1; degree <= 4; degree++) {
+                int[] turned = new int[degree + 1];
+                for (int i = 0; i <= degree; i++) turned[i] = (degree - i) % 2 == 0 ? p - 1 : 1;
+                int due = Made.code(p, turned);
+                int zero = x.form(degree, 0);
+                int largest = x.form(degree, Made.power(p, degree + 1) - 1);
+                Due.is(p + ": the zero form of degree " + degree, 0, () -> x.changed(zero, 0));
+                Due.is(p + ": the largest code of degree " + degree, due, () -> x.changed(largest, 0));
+            }
+        }
+    }
+
     private static void averageOfNoForm() {
         FormForge x = withGenerators(5, matrix(0, 1, 1, 0));
         Due.is("no form at all", Due.INDEX, () -> x.average(0));
@@ -324,25 +342,14 @@ public final class GroupEdgesTest {
         for (int form : Made.FAR) Due.is("form " + form, Due.INDEX, () -> x.average(form));
     }
 
-    private static void dimensionDegrees() {
+    private static void dimensionOfDegrees(Made.OfDegree dimension) {
         for (int p : Made.PRIMES) {
             FormForge x = Made.of(p);
-            Due.is(p + ": degree 0", Due.RANGE, () -> x.dimension(0));
-            Due.is(p + ": degree 1", 2, () -> x.dimension(1));
-            Due.is(p + ": degree 4", 5, () -> x.dimension(4));
-            Due.is(p + ": degree 5", Due.RANGE, () -> x.dimension(5));
-            for (int degree : Made.FAR) Due.is(p + ": degree " + degree, Due.RANGE, () -> x.dimension(degree));
-        }
-    }
-
-    private static void dimensionAnewDegrees() {
-        for (int p : Made.PRIMES) {
-            FormForge x = Made.of(p);
-            Due.is(p + ": degree 0", Due.RANGE, () -> x.dimensionAnew(0));
-            Due.is(p + ": degree 1", 2, () -> x.dimensionAnew(1));
-            Due.is(p + ": degree 4", 5, () -> x.dimensionAnew(4));
-            Due.is(p + ": degree 5", Due.RANGE, () -> x.dimensionAnew(5));
-            for (int degree : Made.FAR) Due.is(p + ": degree " + degree, Due.RANGE, () -> x.dimensionAnew(degree));
+            Due.is(p + ": degree 0", Due.RANGE, () -> dimension.ask(x, 0));
+            Due.is(p + ": degree 1", 2, () -> dimension.ask(x, 1));
+            Due.is(p + ": degree 4", 5, () -> dimension.ask(x, 4));
+            Due.is(p + ": degree 5", Due.RANGE, () -> dimension.ask(x, 5));
+            for (int degree : Made.FAR) Due.is(p + ": degree " + degree, Due.RANGE, () -> dimension.ask(x, degree));
         }
     }
 
@@ -373,12 +380,15 @@ public final class GroupEdgesTest {
         Due.sentence("Promise 7: its determinant is 0", GroupEdgesTest::noDeterminant);
         Due.sentence("Promise 7: Throws IllegalStateException if there are 4", GroupEdgesTest::noMoreGenerators);
         Due.sentence("Promise 8: Returns the order of the group.", GroupEdgesTest::orderOfTheGroup);
+        Due.sentence("Promise 9: Returns the code of a form changed by a generator.",
+            GroupEdgesTest::smallestAndLargestCodes);
         Due.sentence("Promise 9: Throws IndexOutOfBoundsException as told, of the form and generator",
             GroupEdgesTest::changedOfNone);
         Due.sentence("Promise 10: Returns NONE without one.", GroupEdgesTest::noneWithoutOne);
         Due.sentence("Promise 10: Throws IndexOutOfBoundsException as told", GroupEdgesTest::averageOfNoForm);
-        Due.sentence("Promise 11: degree: 1 to 4", GroupEdgesTest::dimensionDegrees);
-        Due.sentence("Promise 12: Throws IllegalArgumentException as told", GroupEdgesTest::dimensionAnewDegrees);
+        Due.sentence("Promise 11: degree: 1 to 4", () -> dimensionOfDegrees(FormForge::dimension));
+        Due.sentence("Promise 12: Throws IllegalArgumentException as told",
+            () -> dimensionOfDegrees(FormForge::dimensionAnew));
     }
 
     public static void main(String[] args) {

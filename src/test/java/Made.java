@@ -4,6 +4,11 @@ final class Made {
     /** Numbers that are too small or too large for all that the document numbers. */
     static final int[] FAR = {Integer.MIN_VALUE, -1000, -1, 1 << 16, 1 << 30, Integer.MAX_VALUE};
 
+    /** One of the calls that take a degree. */
+    interface OfDegree {
+        int ask(FormForge x, int degree);
+    }
+
     static FormForge of(int prime) {
         FormForge x = new FormForge();
         x.prime(prime);

@@ -1,4 +1,4 @@
-/** The sentences on orbits that name a boundary, in the terms and the promises 16 to 19: a test of each. */
+/** The sentences on orbits that name a boundary, in the terms and the promises 4 and 16 to 19: a test of each. */
 public final class OrbitEdgesTest {
     private static FormForge linear(int prime, int... codes) {
         FormForge x = Made.of(prime);
@@ -109,7 +109,38 @@ public final class OrbitEdgesTest {
         Due.is("no average", -1, () -> x.average(0));
     }
 
-    // ---- promises 16 to 19
+    // ---- promises 4 and 16 to 19
+
+    private static void smallestAndLargestOrbit() {
+        FormForge x = Made.of(5);
+        x.generator(4, 0, 0, 1);
+        for (int degree = 1; degree <= 4; degree++) {
+            int zero = x.form(degree, 0);
+            int largest = x.form(degree, Made.power(5, degree + 1) - 1);
+            int n = degree;
+            Due.is("the zero form of degree " + n, 1, () -> x.formIs(zero, 5));
+            Due.is("the largest code of degree " + n, 2, () -> x.formIs(largest, 5));
+            Due.is("no way to it", FormForge.NONE, () -> x.way(zero, largest));
+        }
+        FormForge one = linear(5, 24);
+        Due.is("each form of order 1 alone", 1, () -> one.formIs(0, 5));
+        one.generator(0, 1, 3, 4);
+        Due.is("as many as the order", one.order(), () -> one.formIs(0, 5));
+    }
+
+    private static void leastOfOrbit() {
+        FormForge x = linear(5, 24, 0, 7, 11);
+        Due.is("the only one, the largest", 24, () -> x.formIs(0, 6));
+        x.generator(0, 1, 1, 0);
+        Due.is("that stays", 24, () -> x.formIs(0, 6));
+        Due.is("the zero form", 0, () -> x.formIs(1, 6));
+        Due.is("itself", 7, () -> x.formIs(2, 6));
+        Due.is("the other one", 7, () -> x.formIs(3, 6));
+        x.generator(4, 0, 0, 4);
+        Due.is("less itself", 6, () -> x.formIs(0, 6));
+        x.generator(0, 1, 3, 4);
+        Due.is("the least of all but the zero form", 1, () -> x.formIs(0, 6));
+    }
 
     private static void sameCode() {
         for (int p : Made.PRIMES) {
@@ -209,17 +240,10 @@ public final class OrbitEdgesTest {
         }
     }
 
-    private static void orbits(String name, FormForge x, int... due) {
+    private static void count(String name, Made.OfDegree orbits, FormForge x, int... due) {
         for (int degree = 1; degree <= due.length; degree++) {
             int n = degree;
-            Due.is(name + ": " + n, due[n - 1], () -> x.orbits(n));
-        }
-    }
-
-    private static void orbitsAnew(String name, FormForge x, int... due) {
-        for (int degree = 1; degree <= due.length; degree++) {
-            int n = degree;
-            Due.is(name + ": anew " + n, due[n - 1], () -> x.orbitsAnew(n));
+            Due.is(name + ": " + n, due[n - 1], () -> orbits.ask(x, n));
         }
     }
 
@@ -229,53 +253,31 @@ public final class OrbitEdgesTest {
         return x;
     }
 
-    private static void zeroFormWithThem() {
-        orbits("each alone", Made.of(2), 4, 8, 16, 32);
-        orbits("each alone of 3", Made.of(3), 9, 27, 81, 243);
-        orbits("each alone of 5", Made.of(5), 25, 125, 625, 3125);
-        orbits("less 1 of 3", lessOne(3), 5, 27, 41, 243);
-        orbits("less 1 of 5", lessOne(5), 13, 125, 313, 3125);
-        orbits("all of 2", Made.withAllMatrices(2), 2, 4, 6, 10);
-        orbits("all of 3", Made.withAllMatrices(3), 2, 5, 6);
-        orbits("all of 5", Made.withAllMatrices(5), 2, 5, 6);
-    }
-
-    private static void dividedByTheOrder() {
-        orbitsAnew("each alone", Made.of(2), 4, 8, 16, 32);
-        orbitsAnew("each alone of 3", Made.of(3), 9, 27, 81, 243);
-        orbitsAnew("each alone of 5", Made.of(5), 25, 125, 625, 3125);
-        orbitsAnew("less 1 of 3", lessOne(3), 5, 27, 41, 243);
-        orbitsAnew("less 1 of 5", lessOne(5), 13, 125, 313, 3125);
-        orbitsAnew("all of 2", Made.withAllMatrices(2), 2, 4, 6, 10);
-        orbitsAnew("all of 3", Made.withAllMatrices(3), 2, 5, 6);
-        orbitsAnew("all of 5", Made.withAllMatrices(5), 2, 5, 6);
+    private static void countFewestAndMost(Made.OfDegree orbits) {
+        count("each alone", orbits, Made.of(2), 4, 8, 16, 32);
+        count("each alone of 3", orbits, Made.of(3), 9, 27, 81, 243);
+        count("each alone of 5", orbits, Made.of(5), 25, 125, 625, 3125);
+        count("less 1 of 3", orbits, lessOne(3), 5, 27, 41, 243);
+        count("less 1 of 5", orbits, lessOne(5), 13, 125, 313, 3125);
+        count("all of 2", orbits, Made.withAllMatrices(2), 2, 4, 6, 10);
+        count("all of 3", orbits, Made.withAllMatrices(3), 2, 5, 6);
+        count("all of 5", orbits, Made.withAllMatrices(5), 2, 5, 6);
         FormForge x = Made.of(5);
-        orbitsAnew("before a generator", x, 25);
+        count("before a generator", orbits, x, 25);
         x.generator(0, 1, 1, 0);
-        orbitsAnew("behind a generator", x, 15);
+        count("behind a generator", orbits, x, 15);
         x.generator(4, 0, 0, 4);
-        orbitsAnew("behind another one", x, 9);
+        count("behind another one", orbits, x, 9);
     }
 
-    private static void orbitsDegrees() {
+    private static void countOfDegrees(Made.OfDegree orbits) {
         for (int p : Made.PRIMES) {
             FormForge x = Made.of(p);
-            Due.is(p + ": degree 0", Due.RANGE, () -> x.orbits(0));
-            Due.is(p + ": degree 1", Made.power(p, 2), () -> x.orbits(1));
-            Due.is(p + ": degree 4", Made.power(p, 5), () -> x.orbits(4));
-            Due.is(p + ": degree 5", Due.RANGE, () -> x.orbits(5));
-            for (int degree : Made.FAR) Due.is(p + ": degree " + degree, Due.RANGE, () -> x.orbits(degree));
-        }
-    }
-
-    private static void orbitsAnewDegrees() {
-        for (int p : Made.PRIMES) {
-            FormForge x = Made.of(p);
-            Due.is(p + ": degree 0", Due.RANGE, () -> x.orbitsAnew(0));
-            Due.is(p + ": degree 1", Made.power(p, 2), () -> x.orbitsAnew(1));
-            Due.is(p + ": degree 4", Made.power(p, 5), () -> x.orbitsAnew(4));
-            Due.is(p + ": degree 5", Due.RANGE, () -> x.orbitsAnew(5));
-            for (int degree : Made.FAR) Due.is(p + ": degree " + degree, Due.RANGE, () -> x.orbitsAnew(degree));
+            Due.is(p + ": degree 0", Due.RANGE, () -> orbits.ask(x, 0));
+            Due.is(p + ": degree 1", Made.power(p, 2), () -> orbits.ask(x, 1));
+            Due.is(p + ": degree 4", Made.power(p, 5), () -> orbits.ask(x, 4));
+            Due.is(p + ": degree 5", Due.RANGE, () -> orbits.ask(x, 5));
+            for (int degree : Made.FAR) Due.is(p + ": degree " + degree, Due.RANGE, () -> orbits.ask(x, degree));
         }
     }
 
@@ -292,6 +294,8 @@ public final class OrbitEdgesTest {
     }
 
     private static void promises() {
+        Due.sentence("Promise 4: 5 how many forms its orbit has", OrbitEdgesTest::smallestAndLargestOrbit);
+        Due.sentence("Promise 4: 6 the least code in its orbit", OrbitEdgesTest::leastOfOrbit);
         Due.sentence("Promise 16: Returns 0 if both have the same code", OrbitEdgesTest::sameCode);
         Due.sentence("Promise 16: NONE if there is no way", OrbitEdgesTest::unreached);
         Due.sentence("Promise 16: Throws IndexOutOfBoundsException as told, of both", OrbitEdgesTest::wayOfNoForm);
@@ -302,10 +306,11 @@ public final class OrbitEdgesTest {
         Due.sentence("Promise 17: Throws IndexOutOfBoundsException as told, of both", OrbitEdgesTest::stepOfNoForm);
         Due.sentence("Promise 17: Throws IllegalArgumentException if their degrees are unlike, or step is below 0",
             OrbitEdgesTest::stepBelowZero);
-        Due.sentence("Promise 18: the zero form with them", OrbitEdgesTest::zeroFormWithThem);
-        Due.sentence("Promise 18: degree: 1 to 4", OrbitEdgesTest::orbitsDegrees);
-        Due.sentence("Promise 19: their sum, divided by the order", OrbitEdgesTest::dividedByTheOrder);
-        Due.sentence("Promise 19: Throws IllegalArgumentException as told", OrbitEdgesTest::orbitsAnewDegrees);
+        Due.sentence("Promise 18: the zero form with them", () -> countFewestAndMost(FormForge::orbits));
+        Due.sentence("Promise 18: degree: 1 to 4", () -> countOfDegrees(FormForge::orbits));
+        Due.sentence("Promise 19: their sum, divided by the order", () -> countFewestAndMost(FormForge::orbitsAnew));
+        Due.sentence("Promise 19: Throws IllegalArgumentException as told",
+            () -> countOfDegrees(FormForge::orbitsAnew));
     }
 
     public static void main(String[] args) {

@@ -1,7 +1,7 @@
 import java.util.ArrayList;
 import java.util.List;
 
-/** Calls that throw: nothing has changed by them, and of several exceptions it is the first one; and the last of 512. */
+/** Calls that throw: nothing has changed, of several exceptions it is the first one; and the last of 512 calls. */
 public final class RefusedTest {
     interface Ask {
         long of(FormForge x);

@@ -1,4 +1,4 @@
-/** The sentences on transvectants and values that name a boundary, in the terms and the promises 13 to 15: a test of each. */
+/** The sentences on values that name a boundary, in the terms and the promises 13 to 15: a test of each. */
 public final class ValueEdgesTest {
     private static int[] form(int... coefficients) {
         return coefficients;
