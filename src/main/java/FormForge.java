@@ -14,6 +14,9 @@ public final class FormForge {
     private static final int MOST_CODES = 3125;
     private static final int MOST_TABLES = 625;
     private static final int MOST_MATRICES = 480;
+    // A row for each k, 0 to 3: the 4-th transvectant has the degree 0 or is none, and is refused.
+    private static final int WAYS_WIDTH = 4;
+    private static final int[] WAYS_TO_CHOOSE = {1, 0, 0, 0, 1, 1, 0, 0, 1, 2, 1, 0, 1, 3, 3, 1};
 
     private final Field field;
     private final Columns columns;
@@ -403,11 +406,7 @@ public final class FormForge {
     }
 
     private static int choose(int k, int i) {
-        int ways = 1;
-        for (int j = 1; j <= i; j++) {
-            ways = ways * (k - j + 1) / j;
-        }
-        return ways;
+        return read(WAYS_TO_CHOOSE, k * WAYS_WIDTH + i);
     }
 
     // ---- values
